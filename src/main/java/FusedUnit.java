@@ -18,7 +18,6 @@ public final class FusedUnit {
     private static final int DOWN = 2;
     private static final int UP = 3;
     private static final int TO_NEAREST_AWAY = 4;
-    private static final int BY_OWN_LAW = 5;
 
     private static final int INVALID = 1;
     private static final int OVERFLOW = 2;
@@ -408,20 +407,13 @@ public final class FusedUnit {
                 return NONE;
             }
             told[mode] = adder.bits;
-            if (isNewTold(mode)) {
-                different++;
+            boolean isNew = true;
+            for (int other = 0; other < mode; other++) {
+                isNew = isNew && told[other] != told[mode];
             }
+            different += isNew ? 1 : 0;
         }
         return different;
-    }
-
-    private boolean isNewTold(int mode) {
-        for (int i = 0; i < mode; i++) {
-            if (told[i] == told[mode]) {
-                return false;
-            }
-        }
-        return true;
     }
 
     public boolean twice(int a, int b, int c) {
@@ -892,6 +884,10 @@ public final class FusedUnit {
             return bits >= 0 && bits < 2 * signBit;
         }
 
+        boolean saturates() {
+            return kind == SAT || kind == WHOLE;
+        }
+
         boolean isSmall() {
             return exponentBits + fractionBits <= SMALL;
         }
@@ -943,12 +939,15 @@ public final class FusedUnit {
 
         /** The fraction with its leading one, if it has one. */
         int weight(int bits) {
-            return exponent(bits) == 0 ? fraction(bits) : fraction(bits) | (1 << fractionBits);
+            int size = size(bits);
+            int leadingOne = 1 << fractionBits;
+            return size < leadingOne ? size : (size & (leadingOne - 1)) | leadingOne;
         }
 
         /** The weight that goes into a sum. */
         int addend(int bits) {
-            return kind == FLUSH && exponent(bits) == 0 ? 0 : weight(bits);
+            int weight = weight(bits);
+            return kind == FLUSH && weight < 1 << fractionBits ? 0 : weight;
         }
 
         /** The power of 2 that the last BIT of the fraction stands for. */
@@ -1068,22 +1067,21 @@ public final class FusedUnit {
         }
 
         private void addToProduct(Form form, int mode, boolean minus, long product, int place, int c) {
-            if (form.addend(c) == 0) {
+            long addend = form.addend(c);
+            if (addend == 0) {
                 round(form, mode, minus, product, place);
                 return;
             }
             int shift = WINDOW - bitLength(product);
-            int shiftC = WINDOW - bitLength(form.addend(c));
-            long high = product << shift;
-            long low = (long) form.addend(c) << shiftC;
+            int shiftC = WINDOW - bitLength(addend);
             int ahead = (place - shift) - (form.place(c) - shiftC);
-            boolean minusC = form.isMinus(c);
-            if (ahead >= 0) {
-                low = shifted(low, ahead);
-                addInWindow(form, mode, minus ? -high : high, minusC ? -low : low, place - shift);
+            long one = shifted(product << shift, -ahead);
+            long other = shifted(addend << shiftC, ahead);
+            long both = (minus ? -one : one) + (form.isMinus(c) ? -other : other);
+            if (both == 0) {
+                tell(form.noughtOf(mode == DOWN), 0);
             } else {
-                high = shifted(high, -ahead);
-                addInWindow(form, mode, minus ? -high : high, minusC ? -low : low, form.place(c) - shiftC);
+                round(form, mode, both < 0, both < 0 ? -both : both, place - shift + Math.max(-ahead, 0));
             }
         }
 
@@ -1092,20 +1090,14 @@ public final class FusedUnit {
          * the other one that the end lies far behind guard, so that BIT tells rest as it is.
          */
         private static long shifted(long size, int by) {
+            if (by <= 0) {
+                return size;
+            }
             if (by >= WINDOW) {
                 return 1;
             }
             long left = size >>> by;
             return left << by == size ? left : left | 1;
-        }
-
-        private void addInWindow(Form form, int mode, long one, long other, int place) {
-            long both = one + other;
-            if (both == 0) {
-                tell(form.noughtOf(mode == DOWN), 0);
-            } else {
-                round(form, mode, both < 0, both < 0 ? -both : both, place);
-            }
         }
 
         /** ROUNDED: of size times 2 to the power of place, size being more than 0. */
@@ -1119,7 +1111,10 @@ public final class FusedUnit {
             boolean more = goesUp(mode, minus, (kept & 1) == 1, guard, rest);
             long told = ((long) (last - lowest) << form.fractionBits) + kept + (more ? 1 : 0);
             if (told > form.greatest) {
-                overflow(form, mode, minus);
+                // Beyond the GREATEST it is INF just where one that is odd, with guard and rest, would be one more.
+                boolean toInfinity = !form.saturates() && goesUp(mode, minus, true, true, true);
+                int beyond = toInfinity ? form.infinityOf(minus) : form.greatestOf(minus);
+                settle(beyond, OVERFLOW | INEXACT, minus, toInfinity ? 1 : -1);
             } else if (tiny && form.kind == FLUSH) {
                 settle(form.noughtOf(minus), UNDERFLOW | INEXACT, minus, -1);
             } else if (guard || rest) {
@@ -1127,15 +1122,6 @@ public final class FusedUnit {
                 settle(form.noughtOf(minus) | (int) told, raised, minus, more ? 1 : -1);
             } else {
                 settle(form.noughtOf(minus) | (int) told, 0, minus, 0);
-            }
-        }
-
-        private void overflow(Form form, int mode, boolean minus) {
-            boolean saturates = form.kind == SAT || form.kind == WHOLE;
-            if (!saturates && goesUp(mode, minus, true, true, true)) {
-                settle(form.infinityOf(minus), OVERFLOW | INEXACT, minus, 1);
-            } else {
-                settle(form.greatestOf(minus), OVERFLOW | INEXACT, minus, -1);
             }
         }
 
@@ -1166,17 +1152,17 @@ public final class FusedUnit {
             switch (mode) {
                 case TO_NEAREST_EVEN:
                     return guard && (rest || odd);
+                case TO_NOUGHT:
+                    return false;
                 case DOWN:
                     return minus && (guard || rest);
                 case UP:
                     return !minus && (guard || rest);
                 case TO_NEAREST_AWAY:
                     return guard;
-                case BY_OWN_LAW:
+                default:
                     int facts = (minus ? 1 : 0) | (odd ? 2 : 0) | (guard ? 4 : 0) | (rest ? 8 : 0);
                     return (guard || rest) && ((law >> facts) & 1) == 1;
-                default:
-                    return false;
             }
         }
 
@@ -1512,7 +1498,7 @@ public final class FusedUnit {
             int letters = 0;
             word = 0;
             for (int i = start; i < length && isLetter(signAt(i)); i++) {
-                word = (word << 5) | letterNumber(signAt(i));
+                word = (word << 5) | (signAt(i) - 'a' + 1);
                 letters++;
             }
             behind = start + letters;
@@ -1538,10 +1524,6 @@ public final class FusedUnit {
             return sign >= '0' && sign <= '9';
         }
 
-        private static int letterNumber(char letter) {
-            return letter - 'a' + 1;
-        }
-
         private static boolean isOneOf(char sign, String signs) {
             return signs.indexOf(sign) >= 0;
         }
@@ -1549,7 +1531,7 @@ public final class FusedUnit {
         boolean isWord(String text) {
             long sought = 0;
             for (int i = 0; i < text.length(); i++) {
-                sought = (sought << 5) | letterNumber(text.charAt(i));
+                sought = (sought << 5) | (text.charAt(i) - 'a' + 1);
             }
             return kind == WORD && word == sought;
         }
@@ -1640,19 +1622,15 @@ public final class FusedUnit {
         void readAll() {
             tape.begin();
             for (int i = 0; i <= MOST_SIGNS && tape.goesOn(); i++) {
-                readOne();
-            }
-        }
-
-        private void readOne() {
-            if (tape.isWord("form")) {
-                readForm();
-            } else if (tape.isWord("reg")) {
-                readRegister();
-            } else if (tape.isWord("own")) {
-                readOwn();
-            } else {
-                tape.blame(OUT_OF_PLACE);
+                if (tape.isWord("form")) {
+                    readForm();
+                } else if (tape.isWord("reg")) {
+                    readRegister();
+                } else if (tape.isWord("own")) {
+                    readOwn();
+                } else {
+                    tape.blame(OUT_OF_PLACE);
+                }
             }
         }
 
@@ -1736,10 +1714,11 @@ public final class FusedUnit {
         int readLaw() {
             int from = tape.start;
             int law = 0;
-            for (facts = 0; facts < CASES && tape.isRight(); facts++) {
+            for (int i = 0; i < CASES && tape.isRight(); i++) {
+                facts = i;
                 tape.readFrom(from);
                 if (readEither(0) != 0) {
-                    law |= 1 << facts;
+                    law |= 1 << i;
                 }
             }
             return law;
@@ -1813,7 +1792,11 @@ public final class FusedUnit {
             }
             if (kind == '(') {
                 int value = readEither(depth + 1);
-                tape.passSign(')');
+                if (tape.kind == ')') {
+                    tape.advance();
+                } else {
+                    tape.blame(OUT_OF_PLACE);
+                }
                 return value;
             }
             return kind == NUMBER ? number : (facts >> fact) & 1;
