@@ -1086,18 +1086,14 @@ public final class FusedUnit {
         }
 
         /**
-         * What falls out stays as one BIT at the window's end: anything falls out only of what stands so far below
-         * the other one that the end lies far behind guard, so that BIT tells rest as it is.
+         * What falls out of the window need not be known: anything falls out only of what stands so far below the
+         * other one that all of it lies behind guard, and what stays of it, 1 at least, tells that there is a rest.
          */
         private static long shifted(long size, int by) {
             if (by <= 0) {
                 return size;
             }
-            if (by >= WINDOW) {
-                return 1;
-            }
-            long left = size >>> by;
-            return left << by == size ? left : left | 1;
+            return by >= WINDOW ? 1 : size >>> by;
         }
 
         /** ROUNDED: of size times 2 to the power of place, size being more than 0. */
@@ -1199,7 +1195,6 @@ public final class FusedUnit {
         private int flags;
 
         void empty() {
-            form = NONE;
             mode = TO_NEAREST_EVEN;
             flags = 0;
             for (int i = 0; i < MOST_REGISTERS; i++) {
@@ -1229,6 +1224,9 @@ public final class FusedUnit {
 
     /** The states ahead of the last changes, in a ring. */
     private static final class Past {
+        /** The places of the ring, a power of 2, less 1. */
+        private static final int RING = MOST_UNDONE - 1;
+
         private final State[] states = new State[MOST_UNDONE];
         private final boolean[] bySum = new boolean[MOST_UNDONE];
         private int next;
@@ -1241,24 +1239,18 @@ public final class FusedUnit {
         }
 
         void keep(State state, boolean isSum) {
-            if (next < 0 || next >= MOST_UNDONE) {
-                next = 0;
-            }
-            states[next].copy(state);
-            bySum[next] = isSum;
-            next = next == MOST_UNDONE - 1 ? 0 : next + 1;
+            states[next & RING].copy(state);
+            bySum[next & RING] = isSum;
+            next++;
             steps = Math.min(steps + 1, MOST_UNDONE);
         }
 
         /** Whether what is taken back was an FMA. */
         boolean takeBack(State state) {
-            if (steps == 0) {
-                return false;
-            }
-            next = next <= 0 || next > MOST_UNDONE ? MOST_UNDONE - 1 : next - 1;
+            next--;
             steps--;
-            state.copy(states[next]);
-            return bySum[next];
+            state.copy(states[next & RING]);
+            return bySum[next & RING];
         }
     }
 

@@ -197,7 +197,7 @@ final class SmallFormTests {
 
     private static void others() {
         FusedUnit x = small();
-        int[] others = {-1, 64, Integer.MIN_VALUE, Integer.MAX_VALUE};
+        int[] others = {-1, 64, 76, 12 - 64, Integer.MIN_VALUE, Integer.MIN_VALUE + 12, Integer.MAX_VALUE};
         for (int other : others) {
             Checks.due("exacts", -1, x.exacts(other, 0));
             Checks.due("exacts", -1, x.exacts(0, other));

@@ -118,7 +118,7 @@ final class SumTests {
 
     private static void refusals() {
         FusedUnit x = small();
-        int[] others = {-1, 64, Integer.MIN_VALUE, Integer.MAX_VALUE};
+        int[] others = {-1, 64, 76, 128 + 13, 12 - 64, Integer.MIN_VALUE, Integer.MIN_VALUE + 12, Integer.MAX_VALUE};
         for (int other : others) {
             for (int place = 0; place < 3; place++) {
                 int a = place == 0 ? other : 12;

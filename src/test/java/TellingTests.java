@@ -17,6 +17,7 @@ final class TellingTests {
         Checks.test("promise 3: names", TellingTests::names);
         Checks.test("promise 3: all stays after a fault, but the tape is read", TellingTests::faultLeavesAll);
         Checks.test("promise 3: a unit begins anew", TellingTests::unitBeginsAnew);
+        Checks.test("promise 3: one unit behind the other", TellingTests::unitsInTurn);
         Checks.test("promise 3: a unit of nothing", TellingTests::emptyUnit);
         Checks.test("promise 4: a plan is told", TellingTests::planTold);
         Checks.test("promise 4: faults of plans", TellingTests::planFaults);
@@ -176,10 +177,14 @@ final class TellingTests {
     private static void formFaults() {
         String[] texts = {"form m", "form m plai exp 3 frac 2;", "form m plain frac 2;", "form m plain exp 3;", "form m plain exp 3 frac 2",
             "form m plain exp 1 frac 2;", "form m plain exp 9 frac 2;", "form m plain exp 2 frac 0;", "form m plain exp 8 frac 19;",
-            "form m plain exp 9999 frac 2;", "form form plain", "form m plain exp 8 frac 18 reg", "form 3 plain"};
+            "form m plain exp 9999 frac 2;", "form form plain", "form m plain exp 8 frac 18 reg", "form 3 plain",
+            "form m plain 3 frac 2;", "form m plain exp 3 2;", "form m exp 3 frac 2;", "form m plain exp frac 2;", "form m plain exp 3 frac ;",
+            "form plain exp 3 frac 2;", "form m plain exp exp 3 frac 2;", "form m plain frac 2 exp 3;", "form m sat sat exp 3 frac 2;"};
         int[] due = {Telling.fault(1, 6), Telling.fault(1, 7), Telling.fault(1, 13), Telling.fault(1, 18), Telling.fault(1, 25),
             Telling.fault(4, 17), Telling.fault(4, 17), Telling.fault(4, 24), Telling.fault(4, 24),
-            Telling.fault(4, 17), Telling.fault(1, 5), Telling.fault(1, 27), Telling.fault(1, 5)};
+            Telling.fault(4, 17), Telling.fault(1, 5), Telling.fault(1, 27), Telling.fault(1, 5),
+            Telling.fault(1, 13), Telling.fault(1, 19), Telling.fault(1, 7), Telling.fault(1, 17), Telling.fault(1, 24),
+            Telling.fault(1, 5), Telling.fault(1, 17), Telling.fault(1, 13), Telling.fault(1, 11)};
         for (int i = 0; i < texts.length; i++) {
             Checks.due(texts[i], due[i], Telling.unit(new FusedUnit(), texts[i]));
         }
@@ -268,6 +273,31 @@ final class TellingTests {
         Checks.due("no law", 14, x.sum(13, 13, 0, 5));
     }
 
+    private static void unitsInTurn() {
+        FusedUnit x = Telling.made("own 1; form a sat exp 3 frac 2; form b sat exp 3 frac 2; reg p; reg q;");
+        x.set(0, 12);
+        x.fma(1, 0, 0, 0);
+        x.fma(1, 0, 0, 0);
+        Checks.due("asked twice", 2, x.often(0));
+        Checks.due("the next one", 0, Telling.unit(x, "own 1; form b plain exp 3 frac 2; reg q;"));
+        Checks.due("not told of it", Telling.fault(2, 4), Telling.plan(x, "use a;"));
+        Checks.due("not told of it", Telling.fault(2, 4), Telling.plan(x, "fma p"));
+        Checks.due("the third one", 0, Telling.unit(x, "form a plain exp 3 frac 2; reg r;"));
+        Checks.due("its forms alone", -1, x.form(1, 0));
+        Checks.due("its forms alone", -1, x.use(1));
+        Checks.due("its forms alone", -1, x.into(1, 0));
+        Checks.due("its registers alone", -1, x.reg(1));
+        Checks.due("not told of it", Telling.fault(2, 4), Telling.plan(x, "use b;"));
+        Checks.due("not told of it", Telling.fault(2, 4), Telling.plan(x, "fma p"));
+        Checks.due("no law", 14, x.sum(13, 13, 0, 5));
+        x.set(0, 12);
+        x.fma(0, 0, 0, 0);
+        Checks.due("asked anew", 1, x.asked());
+        Checks.due("so often", 1, x.often(0));
+        x.undo();
+        Checks.due("not asked", 0, x.asked());
+    }
+
     private static void emptyUnit() {
         FusedUnit x = Telling.made(Telling.SMALL);
         x.mode(3);
@@ -300,13 +330,13 @@ final class TellingTests {
     private static void planFaults() {
         String[] texts = {"add", "form", "own 1;", "reg p;", "fma p q r", "fma p q r;", "fma p q r z;", "fma m p p p;", "fma p m p p;",
             "fma p p p m;", "use p;", "use z;", "use 1;", "use", "mode 6;", "mode m;", "mode -1;", "mode", "clear p;", "clear",
-            "fma p q r p p;", "mode 5 5;", "mode 1000;", "mode 10000;", "clear;!", "fma p q 1 p;", "clear;;"};
+            "fma p q r p p;", "mode 5 5;", "mode 1000;", "mode 10000;", "clear;!", "fma p q 1 p;", "clear;;", "mode ;", "use ;", "fma ;"};
         int[] due = {Telling.fault(1, 0), Telling.fault(1, 0), Telling.fault(1, 0), Telling.fault(1, 0), Telling.fault(1, 9),
             Telling.fault(1, 9), Telling.fault(2, 10), Telling.fault(2, 4), Telling.fault(2, 6), Telling.fault(2, 10),
             Telling.fault(2, 4), Telling.fault(2, 4), Telling.fault(1, 4), Telling.fault(1, 3), Telling.fault(4, 5),
             Telling.fault(1, 5), Telling.fault(1, 5), Telling.fault(1, 4), Telling.fault(1, 6), Telling.fault(1, 5),
             Telling.fault(1, 12), Telling.fault(1, 7), Telling.fault(4, 5), Telling.fault(1, 5), Telling.fault(1, 6),
-            Telling.fault(1, 8), Telling.fault(1, 6)};
+            Telling.fault(1, 8), Telling.fault(1, 6), Telling.fault(1, 5), Telling.fault(1, 4), Telling.fault(1, 4)};
         for (int i = 0; i < texts.length; i++) {
             FusedUnit x = Telling.made(Telling.SMALL);
             Checks.due(texts[i], due[i], Telling.plan(x, texts[i]));
