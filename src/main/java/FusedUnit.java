@@ -1871,11 +1871,11 @@ public final class FusedUnit {
         }
 
         private int passRegister() {
-            return passKnown(tape.isName() ? unit.registerNamed(tape.word) : NONE);
+            return passKnown(unit.registerNamed(tape.word));
         }
 
         private int passForm() {
-            return passKnown(tape.isName() ? unit.formNamed(tape.word) : NONE);
+            return passKnown(unit.formNamed(tape.word));
         }
 
         private int passKnown(int place) {
