@@ -15,6 +15,12 @@ public final class AllTests {
         PlansTests.run();
         RandomRuns.run();
         RoomTests.run();
+        TellingEdges.run();
+        HandEdges.run();
+        NumberEdges.run();
+        SumEdges.run();
+        SmallEdges.run();
+        AskedEdges.run();
         if (!Checks.end()) {
             System.exit(1);
         }

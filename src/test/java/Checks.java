@@ -33,6 +33,11 @@ final class Checks {
         }
     }
 
+    /** A test of a sentence of ../shared/DOC.md that names a boundary case, and of the promise that it belongs to. */
+    static void edge(int promise, String sentence, Test test) {
+        test("promise " + promise + ", \"" + sentence + "\"", test);
+    }
+
     static void due(String what, long want, long got) {
         if (want != got) {
             wrong++;

@@ -52,7 +52,7 @@ final class PrefixTests {
         return (x >> i & 1) == 1;
     }
 
-    private static int byWords(long x, long y) {
+    static int byWords(long x, long y) {
         for (int i = 63; i >= 0; i--) {
             boolean t = i < 63 && has(x, i + 1) != has(y, i + 1);
             boolean g = has(x, i) && has(y, i);
@@ -67,7 +67,7 @@ final class PrefixTests {
         return 64;
     }
 
-    private static int alike(long sum) {
+    static int alike(long sum) {
         int many = 0;
         while (many < 64 && has(sum, 63 - many) == has(sum, 63)) {
             many++;
