@@ -202,6 +202,29 @@ final class AskedEdges {
         x.set(2, 30);
         x.fma(5, 2, 3, 0);
         Checks.due("30 of a whole FORM is no NAN", 10, x.results());
+        resultsOfLargest();
+    }
+
+    /** The same BITS but for the sign, and the same BITS, of four FORMS of the largest size. */
+    private static void resultsOfLargest() {
+        String bits = " exp 8 frac 18;";
+        FusedUnit x = Telling.made("form a plain" + bits + "form b flush" + bits + "form c sat" + bits + "form d whole" + bits + "reg p;reg q;reg r;");
+        int one = 127 << 18;
+        int results = 0;
+        for (int form = 0; form < 4; form++) {
+            x.use(form);
+            for (int minus = 0; minus <= 1 << 26; minus += 1 << 26) {
+                x.set(0, one);
+                x.set(1, one | minus);
+                x.set(2, 0);
+                x.fma(2, 0, 1, 2);
+                results++;
+                Checks.due("1 and -1 of each FORM", results, x.results());
+                x.fma(2, 0, 1, 2);
+                results++;
+                Checks.due("2 and -2 of each FORM", results, x.results());
+            }
+        }
     }
 
     private static void resultsOnce() {

@@ -109,6 +109,7 @@ final class HandEdges {
         Checks.edge(10, "CLEAR: no FLAGS.", HandEdges::clearNothing);
         Checks.edge(11, "USE: the FLAGS that it raises; NONE: others.", HandEdges::useOthers);
         Checks.edge(11, "USE another FORM, or the same one", HandEdges::useSame);
+        Checks.edge(11, "each REGISTER, by its number, is what it was, in that FORM: NAN THE NAN", HandEdges::useNan);
         Checks.edge(11, "INF INF", HandEdges::useInf);
         Checks.edge(11, "of a whole FORM NAN NOUGHT, +, INF GREATEST of its sign, FLAG 1 either way", HandEdges::useWhole);
         Checks.edge(11, "NOUGHT NOUGHT of its sign", HandEdges::useNoughts);
@@ -174,6 +175,28 @@ final class HandEdges {
         x.set(0, 15);
         Checks.due("whole", 0, x.use(3));
         Checks.due("it stays", 15, x.reg(0));
+    }
+
+    private static void useNan() {
+        int[] nans = {29, 30, 31, 61, 62, 63};
+        for (int form = 0; form < 3; form++) {
+            for (int nan : nans) {
+                String[] kinds = {"plain", "flush", "sat"};
+                FusedUnit x = Telling.made("form m plain exp 3 frac 2;form n " + kinds[form] + " exp 5 frac 6;reg p;reg q;reg r;");
+                x.set(2, nan);
+                Checks.due("no flags", 0, x.use(1));
+                Checks.due("THE NAN", (31 << 6) + (1 << 5), x.reg(2));
+                Checks.due("others are what they were", 0, x.reg(0));
+            }
+        }
+        FusedUnit six = Telling.made("form m plain exp 3 frac 2;form n plain exp 5 frac 6;reg a;reg b;reg c;reg d;reg e;reg f;");
+        for (int i = 0; i < 6; i++) {
+            six.set(i, 8 + i);
+        }
+        Checks.due("exact", 0, six.use(1));
+        for (int i = 0; i < 6; i++) {
+            Checks.due("by its number " + i, 14 + i / 4 << 6 | (i % 4) << 4, six.reg(i));
+        }
     }
 
     private static void useInf() {

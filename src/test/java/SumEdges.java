@@ -18,6 +18,7 @@ final class SumEdges {
         rounded();
         Checks.edge(18, "what it is exactly is ROUNDED once", SumEdges::farApart);
         Checks.edge(18, "what it is exactly is ROUNDED once.", SumEdges::cancelled);
+        Checks.edge(18, "With exponent 0 it is fraction times 2 to the power of 1 - BIAS - F (NOUGHT, of either sign, or SUBNORMAL)", SumEdges::subnormals);
         asked();
         ofRegisters();
     }
@@ -400,6 +401,28 @@ final class SumEdges {
         for (int mode = 0; mode < 6; mode++) {
             Edges.sums(x, new int[][] {{one + 1, one + 1, sign | one + 2, mode, 127 - 36 << 18, 0}, {one - 1, one - 1, sign | one - 2, mode, 127 - 38 << 18, 0},
                 {one + 1, one - 2, sign | one, mode, sign | 127 - 36 << 18, 0}, {sign | one + 3, one + 3, one + 6, mode, sign | (127 - 33 << 18) + (1 << 15), 0}});
+        }
+    }
+
+    /** The SUBNORMALS stand as close as the least NORMALS, and there is no gap between them. */
+    private static void subnormals() {
+        int[][] sizes = {{2, 1}, {8, 1}, {2, 18}, {8, 18}, {3, 2}};
+        for (int[] size : sizes) {
+            for (int kind = 0; kind < 4; kind++) {
+                if (kind == 1) {
+                    continue;
+                }
+                Oracle form = new Oracle(kind, size[0], size[1]);
+                FusedUnit x = Telling.made(form, 0, "");
+                int one = form.one();
+                int least = 1 << form.f;
+                int sign = form.signBit;
+                for (int mode = 0; mode < 6; mode++) {
+                    Edges.sums(x, new int[][] {{one, least - 1, 1, mode, least, 0}, {one, least, 1, mode, least + 1, 0}, {one, least, sign | 1, mode, least - 1, 0},
+                        {one, sign | least, 1, mode, sign | least - 1, 0}, {one, 1, 0, mode, 1, 0}, {one, 1, sign | 1, mode, mode == 2 ? sign : 0, 0},
+                        {one, least - 1, least - 1, mode, 2 * (least - 1), 0}, {one, least + 1, sign | least, mode, 1, 0}});
+                }
+            }
         }
     }
 

@@ -375,6 +375,7 @@ final class TellingEdges {
         Checks.edge(3, "no PART lies within 5 of not and ( )", TellingEdges::within5);
         Checks.edge(3, "what is not 0 is so; ints wrap.", TellingEdges::intsWrap);
         Checks.edge(3, "Of not, and, or, < and = comes 1 or 0", TellingEdges::oneOrNought);
+        Checks.edge(3, "TEST: SUM, or SUM < SUM, or SUM = SUM", TellingEdges::oneComparison);
         Checks.edge(3, "from the left", TellingEdges::fromTheLeft);
         Checks.edge(3, "Without own: 0.", TellingEdges::withoutOwn);
     }
@@ -429,6 +430,21 @@ final class TellingEdges {
         says("(2 < 2) = 0", true);
         says("(7 = 7) = 1", true);
         says("(7 = 8) = 0", true);
+    }
+
+    private static void oneComparison() {
+        String[] wrong = {"own 1 < 2 < 3;", "own 1 = 1 = 1;", "own 1 < 2 = 1;", "own 1 = 1 < 2;", "own 1 <= 2;", "own 1 =< 2;", "own 1 == 2;"};
+        int[] places = {10, 10, 10, 10, 7, 7, 7};
+        for (int i = 0; i < wrong.length; i++) {
+            Checks.due(wrong[i], Telling.fault(1, places[i]), Telling.unit(new FusedUnit(), wrong[i]));
+        }
+        says("1 < 2 and 2 < 3", true);
+        says("(1 < 2) < 3", true);
+        says("(5 = 5) = 1", true);
+        says("1 + 1 < 1 * 3", true);
+        says("not 1 < 1", true);
+        says("not (1 < 1)", true);
+        says("not (0 < 1)", false);
     }
 
     private static void fromTheLeft() {
