@@ -21,6 +21,7 @@ public final class AllTests {
         SumEdges.run();
         SmallEdges.run();
         AskedEdges.run();
+        ReadmeTests.run();
         if (!Checks.end()) {
             System.exit(1);
         }
